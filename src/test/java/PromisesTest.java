@@ -39,6 +39,7 @@ public final class PromisesTest {
         test.cutAtCheckpoint();
         test.state();
         test.ringGoesRound();
+        test.wholeRoom();
         test.farBeyondCalls();
         test.check.end();
     }
@@ -274,8 +275,8 @@ public final class PromisesTest {
         check.due("told() fourth", x.told(), 4);
         check.due("told() nobody left", x.told(), -1);
         check.due("waiting", x.state(5), 0);
-        record(x, 482);
-        check.due("commit over the edge", x.commit(5), 1002);
+        record(x, 481);
+        check.due("commit over the edge", x.commit(5), 1001);
         x.flush(1000);
         check.due("told() flushed to less than its end", x.told(), -1);
         x.flush(1001);
@@ -624,21 +625,36 @@ public final class PromisesTest {
         }
     }
 
-    /** Answers are free there, but nothing other than the document's exceptions may come. */
+    /** All of the room is used, and no block is in another's way. */
+    private void wholeRoom() {
+        LogDesk x = new LogDesk(32);
+        for (int block = 0; block < 32; block++) {
+            x.fill(block, 497);
+            check.due("block " + block + ": append", x.append(1), 500 * block + 500);
+        }
+        check.due("flush of the whole room", x.flush(16000), 32);
+        check.due("open() of the whole room", x.open(), 32);
+        for (int block = 0; block < 32; block++) {
+            x.next();
+            check.due("block " + block + ": byteOf(0)", x.byteOf(0), block);
+            check.due("block " + block + ": byteOf(496)", x.byteOf(496), block);
+        }
+    }
+
+    /** Answers are free there, but places must not wrap round, nor may the machine throw. */
     private void farBeyondCalls() {
         LogDesk x = new LogDesk(3);
-        for (int i = 0; i < 4000000; i++) {
+        for (int i = 0; i < 3700000; i++) {
             x.fill(i, 600);
             String answer = Check.answer(() -> x.append(1));
             if (answer.equals("throws.IllegalStateException")) {
-                x.flush(x.state(1));
-                x.checkpoint(x.state(1));
-            } else if (answer.startsWith("throws")) {
-                check.fail("append far beyond 512 calls: " + answer);
-                return;
+                break;
             }
+            x.flush(x.state(1));
+            x.checkpoint(x.state(1));
         }
-        Check.answer(x::open);
-        Check.answer(x::next);
+        check.due("far beyond 512 calls: end >= 0", x.state(1) >= 0, true);
+        check.due("far beyond 512 calls: open()", x.open(), 0);
+        check.throwing("far beyond 512 calls: next()", ELEMENT, x::next);
     }
 }
