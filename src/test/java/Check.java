@@ -1,23 +1,47 @@
+import java.util.NoSuchElementException;
 import java.util.function.IntSupplier;
 
 /** Counts and prints the answers that are not the ones due. */
 final class Check {
+    static final Class<IllegalArgumentException> ARGUMENT = IllegalArgumentException.class;
+    static final Class<IllegalStateException> STATE = IllegalStateException.class;
+    static final Class<UnsupportedOperationException> POWER = UnsupportedOperationException.class;
+    static final Class<NoSuchElementException> ELEMENT = NoSuchElementException.class;
+
     private final String name;
+    private String sentence = "";
     private int wrong;
 
     Check(String name) {
         this.name = name;
     }
 
+    /** What follows tests this sentence of the document: it is printed with each wrong answer. */
+    void about(String text) {
+        sentence = " [" + text + "]";
+    }
+
     void due(String call, long got, long want) {
         if (got != want) {
-            wrong++;
-            System.out.println(name + ": " + call + " answered " + got + ", due is " + want);
+            fail(call + " answered " + got + ", due is " + want);
         }
     }
 
     void due(String call, boolean got, boolean want) {
         due(call, got ? 1 : 0, want ? 1 : 0);
+    }
+
+    void due(String call, String got, String want) {
+        if (!got.equals(want)) {
+            fail(call + " answered " + got + ", due is " + want);
+        }
+    }
+
+    /** The answers of state(0), state(1) and so on. */
+    void states(String when, LogDesk x, int... want) {
+        for (int what = 0; what < want.length; what++) {
+            due(when + ": state(" + what + ")", x.state(what), want[what]);
+        }
     }
 
     /** The call must throw just that class of exception, not one below it. */
@@ -44,7 +68,7 @@ final class Check {
 
     void fail(String text) {
         wrong++;
-        System.out.println(name + ": " + text);
+        System.out.println(name + sentence + ": " + text);
     }
 
     int wrong() {

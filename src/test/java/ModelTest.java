@@ -1,9 +1,11 @@
 import java.util.Random;
 
-/** Runs of 512 drawn calls, the same in each session, with the answers of the model beside those of the class. */
+/** Runs of at most 512 drawn calls, the same each time, with the answers of the model beside those of the class. */
 public final class ModelTest {
-    private static final int RUNS = 4000;
-    private static final int CALLS = 512;
+    private static final int RUNS = 20000;
+    /** The calls of one draw, and those of the last look, still are among the 512. */
+    private static final int CALLS = 440;
+    private static final int STATES = 10;
     private static final int[] ODD = {-1, Integer.MIN_VALUE, Integer.MAX_VALUE, 0, 1, 2048, 1000, 601, 600};
 
     private final Check check = new Check("ModelTest");
@@ -13,6 +15,7 @@ public final class ModelTest {
     private final Model model;
     /** One of ten runs or so draws checkpoints seldom, so that its log gets full. */
     private final boolean seldomMovesOn;
+    private int calls;
 
     private ModelTest(int run) {
         this.run = run;
@@ -26,13 +29,33 @@ public final class ModelTest {
     public static void main(String[] args) {
         for (int run = 0; run < RUNS; run++) {
             ModelTest test = new ModelTest(run);
+            if (run % 2 == 0) {
+                test.longPast();
+            }
             test.calls();
             test.check.end();
         }
     }
 
+    /** Large records first, so that the drawn calls meet a log that is full, or goes over the ring's end. */
+    private void longPast() {
+        int rounds = random.nextInt(40);
+        int oneOf = 1 + random.nextInt(5);
+        for (int i = 0; i < rounds; i++) {
+            int v = random.nextInt();
+            int n = 600 - random.nextInt(4);
+            same("fill(" + v + ", " + n + ")", "" + x.fill(v, n), "" + model.fill(v, n));
+            same("append(1)", Check.answer(() -> x.append(1)), Check.answer(() -> model.append(1)));
+            if (oneOf < 5 && random.nextInt(oneOf) == 0) {
+                int end = model.state(1);
+                same("flush(" + end + ")", Check.answer(() -> x.flush(end)), Check.answer(() -> model.flush(end)));
+                checkpointAt(end);
+            }
+        }
+    }
+
     private void calls() {
-        for (int call = 0; call < CALLS && check.wrong() == 0; call++) {
+        while (calls < CALLS && check.wrong() == 0) {
             switch (random.nextInt(16)) {
                 case 0 -> put();
                 case 1, 2 -> fill();
@@ -46,21 +69,23 @@ public final class ModelTest {
                 case 14 -> seldom();
                 default -> byteOf();
             }
-            states();
+            state(random.nextInt(STATES) - 1);
         }
+        for (int what = -1; what < STATES - 1; what++) {
+            state(what);
+        }
+        check.due("run " + run + ": calls <= 512", calls <= 512, true);
     }
 
     private void same(String call, String got, String want) {
+        calls++;
         if (!got.equals(want)) {
             check.fail("run " + run + ": " + call + " answered " + got + ", due is " + want);
         }
     }
 
-    private void states() {
-        for (int what = -1; what < 9; what++) {
-            int asked = what;
-            same("state(" + what + ")", Check.answer(() -> x.state(asked)), Check.answer(() -> model.state(asked)));
-        }
+    private void state(int what) {
+        same("state(" + what + ")", Check.answer(() -> x.state(what)), Check.answer(() -> model.state(what)));
     }
 
     private int oddOr(int usual) {
@@ -133,17 +158,20 @@ public final class ModelTest {
         }
         int read = model.state(7);
         int usual = random.nextInt(3) != 0 && read >= 0 ? read : place();
-        int place = random.nextInt(4) == 0 ? model.state(2) : usual;
+        checkpointAt(random.nextInt(4) == 0 ? model.state(2) : usual);
+    }
+
+    private void checkpointAt(int place) {
         same("checkpoint(" + place + ")", Check.answer(() -> x.checkpoint(place)),
             Check.answer(() -> model.checkpoint(place)));
     }
 
     private void read() {
-        int times = 1 + random.nextInt(4);
+        int times = 1 + random.nextInt(3);
         for (int i = 0; i < times; i++) {
             same("next()", Check.answer(x::next), Check.answer(model::next));
             same("length()", "" + x.length(), "" + model.length());
-            for (int at = 0; at < model.length(); at += 1 + random.nextInt(9)) {
+            for (int at = 0; at < model.length(); at += 50 + random.nextInt(100)) {
                 same("byteOf(" + at + ")", "" + x.byteOf(at), "" + model.byteOf(at));
             }
         }
